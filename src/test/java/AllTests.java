@@ -1,4 +1,7 @@
-/** Runs every test of the project; ends with exit code 1 if one fails. */
+/**
+ * Runs every test of the project; ends with exit code 1 if one fails. A number as argument tells how
+ * many objects are compared with the model.
+ */
 public final class AllTests {
     private AllTests() {
     }
@@ -16,7 +19,7 @@ public final class AllTests {
         UndoTest.run();
         ScriptRunTest.run();
         FormatTest.run();
-        ModelTest.run();
+        ModelTest.run(args.length > 0 ? Integer.parseInt(args[0]) : 250);
         if (!Check.allRight()) {
             System.exit(1);
         }
