@@ -253,10 +253,7 @@ public final class TranscriptCutter {
 
     public int sourceOf(int frame) {
         int shot = film.shotWithFrame(frame);
-        if (shot == NONE) {
-            return NONE;
-        }
-        return film.shotFirst[shot] + frame - film.shotStart[shot];
+        return shot == NONE ? NONE : film.sourceIn(shot, frame);
     }
 
     public int heard(int frame, int speaker) throws IndexOutOfBoundsException {
@@ -502,32 +499,25 @@ public final class TranscriptCutter {
 
         void advance() {
             int at = tokenStart + tokenSize;
-            while (at < length && isBlank(bytes[at])) {
+            while (at < length && (bytes[at] == ' ' || bytes[at] == '\t' || bytes[at] == '\n')) {
                 at++;
             }
             tokenStart = at;
-            if (at >= length) {
-                tokenKind = END;
-                tokenSize = 0;
-                return;
-            }
-            tokenKind = kindOf(bytes[at]);
-            at++;
-            while (tokenKind != SIGN && at < length && kindOf(bytes[at]) == tokenKind) {
+            tokenKind = LETTERS;
+            while (at < length && bytes[at] >= 'a' && bytes[at] <= 'z') {
                 at++;
             }
-            tokenSize = at - tokenStart;
-        }
-
-        private static boolean isBlank(byte b) {
-            return b == 32 || b == 9 || b == 10;
-        }
-
-        private static int kindOf(byte b) {
-            if (b >= 'a' && b <= 'z') {
-                return LETTERS;
+            if (at == tokenStart) {
+                tokenKind = DIGITS;
+                while (at < length && bytes[at] >= '0' && bytes[at] <= '9') {
+                    at++;
+                }
             }
-            return b >= '0' && b <= '9' ? DIGITS : SIGN;
+            if (at == tokenStart) {
+                tokenKind = at < length ? SIGN : END;
+                at = Math.min(at + 1, length);
+            }
+            tokenSize = at - tokenStart;
         }
 
         /** Marks the present token as wrong; behind the last token that is the end of the text. */
@@ -973,7 +963,6 @@ public final class TranscriptCutter {
         }
 
         void findBlocks() {
-            blockCount = 0;
             for (int w = 0; w < wordCount; w++) {
                 // Words come by their starts, so only the reach of the latest block matters.
                 if (blockCount == 0 || wordStart[w] >= blockEnd[blockCount - 1]) {
@@ -1204,7 +1193,7 @@ public final class TranscriptCutter {
                 shotFirst[shot] = recording.firstFrame(block, edit.head[block]);
                 shotBehind[shot] = recording.frameBehind(block, edit.tail[block]);
                 shotStart[shot] = frames;
-                frames += shotBehind[shot] - shotFirst[shot];
+                frames += framesOfShot(shot);
                 shotPlace[shot] = places;
                 for (int w = recording.blockWord[block]; w < recording.blockWord[block + 1]; w++) {
                     if (edit.kept[w]) {
@@ -1284,12 +1273,17 @@ public final class TranscriptCutter {
             return NONE;
         }
 
+        /** The frame of the recording that the shot plays in this film frame of its own. */
+        int sourceIn(int shot, int frame) {
+            return shotFirst[shot] + frame - shotStart[shot];
+        }
+
         int wordHeard(int frame, int speaker) {
             int shot = shotWithFrame(frame);
             if (shot == NONE) {
                 return NONE;
             }
-            int source = shotFirst[shot] + frame - shotStart[shot];
+            int source = sourceIn(shot, frame);
             for (int place = shotPlace[shot]; place < shotPlace[shot + 1]; place++) {
                 int word = transcript[place];
                 if (recording.wordSpeaker[word] == speaker && recording.isSpoken(word, source)) {

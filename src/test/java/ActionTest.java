@@ -108,6 +108,13 @@ final class ActionTest {
         Check.due("blocks 2 0 3 but for two words", Check.film(x), "6 0 1 7 8 | 2 0 3");
         x.restore(4, 4);
         Check.due("behind 0, not behind 2", Check.film(x), "6 0 1 4 7 8 | 2 0 1 3");
+        x.restore(0, 8);
+        x.move(2, 2, -1);
+        x.cutWord(6);
+        Check.due("blocks 1 0 3", Check.film(x), "2 3 4 5 0 1 7 8 | 1 0 3");
+        x.restore(6, 6);
+        Check.due("behind the greatest lower one, not the last", Check.film(x),
+                "2 3 4 5 6 0 1 7 8 | 1 2 0 3");
     }
 
     private static void restoredHandles() {

@@ -19,6 +19,7 @@ public final class AllTests {
         UndoTest.run();
         ScriptRunTest.run();
         FormatTest.run();
+        LimitTest.run();
         ModelTest.run(args.length > 0 ? Integer.parseInt(args[0]) : 250);
         if (!Check.allRight()) {
             System.exit(1);

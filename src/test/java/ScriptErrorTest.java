@@ -29,6 +29,8 @@ final class ScriptErrorTest {
         wrong(SYNTAX, "^else {}");
         wrong(SYNTAX, "^behind (a);");
         wrong(SYNTAX, "^cuts (a);");
+        wrong(SYNTAX, "^but (a);");
+        wrong(SYNTAX, "^cat (a);");
         wrong(SYNTAX, "^Cut (a);");
         wrong(SYNTAX, "^7");
         wrong(SYNTAX, "cut ^a;");

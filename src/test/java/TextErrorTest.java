@@ -27,6 +27,8 @@ final class TextErrorTest {
         wrong(SYNTAX, "^;");
         wrong(SYNTAX, " ^lengths 5;");
         wrong(SYNTAX, "^lengt 5;");
+        wrong(SYNTAX, "^xength 5;");
+        wrong(SYNTAX, "^lengtx 5;");
         wrong(SYNTAX, "^Length 5;");
         wrong(SYNTAX, "^5;");
         wrong(SYNTAX, "^speakera;");

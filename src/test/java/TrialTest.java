@@ -70,5 +70,16 @@ final class TrialTest {
         Check.due("shotsToCut 76 then", x.shotsToCut(76), 2);
         x.cut(0, 8);
         Check.due("an empty film", x.shotsToCut(0), 0);
+        longestFirst("speaker s;length 45;word s a 0 27;word s b 29 30;");
+        longestFirst("speaker s;length 45;word s a 0 16;word s b 18 30;");
+    }
+
+    /** Of two shots with 28 and 17 frames the longer one is left out, wherever it stands. */
+    private static void longestFirst(String text) {
+        TranscriptCutter x = Check.loaded(text);
+        Check.due("shots of " + text, x.blockField(0, 5) == 28 || x.blockField(0, 5) == 17, true);
+        Check.due("shotsToCut 44 of " + text, x.shotsToCut(44), 1);
+        Check.due("shotsToCut 17 of " + text, x.shotsToCut(17), 1);
+        Check.due("shotsToCut 16 of " + text, x.shotsToCut(16), 2);
     }
 }
