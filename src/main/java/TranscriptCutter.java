@@ -555,7 +555,7 @@ public final class TranscriptCutter {
             return true;
         }
 
-        /** The present token as a name, five bits a letter; NONE, and it is wrong, if it is none. */
+        /** The present token as a name, five bits a letter; NONE, and it is wrong, if it isn't one. */
         int nameHere() {
             if (tokenKind != LETTERS || tokenSize > LETTER_LIMIT) {
                 fail(SYNTAX);
@@ -568,7 +568,7 @@ public final class TranscriptCutter {
             return name;
         }
 
-        /** The present token as a number from low to high; NONE, and it is wrong, if it is none. */
+        /** The present token as a number in a range; NONE, and it is wrong, if it isn't one. */
         int numberHere(int low, int high) {
             if (tokenKind != DIGITS) {
                 fail(SYNTAX);
