@@ -8,8 +8,14 @@ final class Check {
     static final String NOTHING = "nothing";
     private static int checks = 0;
     private static int wrong = 0;
+    private static String test = "";
 
     private Check() {
+    }
+
+    /** The name of the test that what comes now belongs to. */
+    static void within(String name) {
+        test = name;
     }
 
     static void due(String what, long answer, long due) {
@@ -103,6 +109,31 @@ final class Check {
         return error(x, thrownBy(x::loadScript));
     }
 
+    /** The text has this kind of error, at the "^" in it. */
+    static void wrongText(int kind, String marked) {
+        String text = withoutMark(marked);
+        due(text, errorOf(text), kind + " at " + marked.indexOf('^'));
+    }
+
+    /** The script has this kind of error, at the "^" in it. */
+    static void wrongScript(int kind, String marked) {
+        String script = withoutMark(marked);
+        due(script, scriptErrorOf(script), kind + " at " + marked.indexOf('^'));
+    }
+
+    private static String withoutMark(String marked) {
+        int offset = marked.indexOf('^');
+        return marked.substring(0, offset) + marked.substring(offset + 1);
+    }
+
+    static void rightText(String text) {
+        due(text, errorOf(text), "");
+    }
+
+    static void rightScript(String script) {
+        due(script, scriptErrorOf(script), "");
+    }
+
     private static String error(TranscriptCutter x, String thrown) {
         if (thrown.equals(NOTHING)) {
             return x.errorKind() == 0 && x.errorOffset() == -1 ? "" : "an error without exception";
@@ -154,7 +185,7 @@ final class Check {
     private static void tell(String line) {
         wrong++;
         if (wrong <= 50) {
-            System.out.println(line);
+            System.out.println(test + line);
         }
     }
 
