@@ -175,6 +175,38 @@ final class ActionEdges {
         Twins.noSuch("cutWord: no word, so none that is kept", x -> x.cutWord(4));
     }
 
+    @Says("IndexOutOfBoundsException is thrown if a parameter named speaker, word, other or block is "
+            + "not the number of an existing one, or if a parameter named shot, first or last is not "
+            + "0 to the number of shots - 1.")
+    static void exceptions_nothingExists() {
+        Twins.Act[] calls = {x -> x.wordField(0, 0), x -> x.isSameText(0, 0) ? 1 : 0,
+            x -> x.overlap(0, 0) ? 1 : 0, x -> x.blockField(0, 0), x -> x.isSnapped(0) ? 1 : 0,
+            x -> x.blockOf(0), x -> x.shotField(0, 0), x -> x.heard(0, 0), x -> x.speakingTime(0),
+            x -> x.placeOf(0), x -> x.startInFilm(0), x -> x.occurrences(0),
+            x -> x.lengthIfRestored(0), x -> x.cutWord(0), x -> x.restore(0, 0),
+            x -> x.move(0, 0, -1), x -> x.setHandles(0, 0, 0), x -> x.formatShot(0)};
+        for (int k = 0; k < calls.length; k++) {
+            Twins.refused("IndexOutOfBoundsException", "call " + k, TranscriptCutter::new, calls[k]);
+            Twins.refused("IndexOutOfBoundsException", "call " + k + " after an empty text",
+                    () -> Check.loaded("length 7;"), calls[k]);
+        }
+    }
+
+    @Says("or if a parameter named shot, first or last is not 0 to the number of shots - 1")
+    static void exceptions_noShotIsLeft() {
+        Twins.Act[] calls = {x -> x.blockOf(0), x -> x.shotField(0, 0), x -> x.move(0, 0, -1),
+            x -> x.formatShot(0)};
+        for (int k = 0; k < calls.length; k++) {
+            Twins.refused("IndexOutOfBoundsException", "call " + k, ActionEdges::allCut, calls[k]);
+        }
+    }
+
+    private static TranscriptCutter allCut() {
+        TranscriptCutter x = Twins.talk();
+        x.cut(0, 3);
+        return x;
+    }
+
     @Says("A call that throws changes nothing, except that load and loadScript empty the buffer and "
             + "set the error.")
     static void exceptions_nothingIsRecorded() {

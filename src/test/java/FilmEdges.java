@@ -312,6 +312,10 @@ final class FilmEdges {
         Check.due("the other one there", x.heard(8, 0), 1);
         Check.due("its last frame", x.heard(13, 1), 2);
         Check.due("behind it", x.heard(14, 1), -1);
+        TranscriptCutter y = Check.loaded(TextEdges.words(40));
+        Check.due("the 40th word", y.heard(78, 0), 39);
+        Check.due("behind it", y.heard(79, 0), -1);
+        Check.due("the last frame", y.heard(999, 0), -1);
     }
 
     @Says("int heard(int frame, int speaker) throws IndexOutOfBoundsException")
@@ -329,6 +333,20 @@ final class FilmEdges {
         TranscriptCutter x = Twins.talk();
         x.cut(0, 3);
         Check.due("no film is left", x.silence(), 0);
+    }
+
+    @Says("Returns the number of film frames in which no word is heard.")
+    static void promise25_wordsThatTouchAndOverlap() {
+        TranscriptCutter x = Check.loaded("length 50;speaker a;speaker b;word a x 2 40;word b y 5 10;"
+                + "word b z 39 48;");
+        Check.due("only the ends are silent", x.silence(), 4);
+        x.cutWord(2);
+        Check.due("a word in another one", x.silence(), 12);
+        x.cutWord(0);
+        Check.due("the inner one alone", x.silence(), 45);
+        TranscriptCutter y = Check.loaded("length 50;speaker a;speaker b;word a x 2 10;word b y 9 20;"
+                + "word a z 20 30;");
+        Check.due("words that touch", y.silence(), 50 - 28);
     }
 
     @Says("Returns the greatest number of film frames, one behind the other, "

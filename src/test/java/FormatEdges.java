@@ -16,8 +16,8 @@ final class FormatEdges {
         Check.due("shot " + shot, Check.formatted(x), due);
     }
 
-    @Says("The text has the texts of its words, with a space between two words of one shot, and with "
-            + "\" / \" between two words of different shots.")
+    @Says({"The text has the texts of its words, with a space between two words of one shot, and "
+            + "with \" / \" between two words of different shots.", "Returns the length of the text."})
     static void promise47_noneOneAndSomeWords() {
         transcript(new TranscriptCutter(), "");
         TranscriptCutter x = Twins.talk();

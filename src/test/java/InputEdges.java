@@ -221,7 +221,24 @@ final class InputEdges {
         for (int words : new int[] {0, 1, 39, 40, 0, 40, 1}) {
             Check.fill(x, TextEdges.words(words));
             Check.due("load of " + words, x.load(), words);
-            Check.due("count", x.count(2), words);
+            Check.due("words", x.count(2), words);
+            Check.due("blocks", x.count(3), words);
+        }
+    }
+
+    @Says("replaces the recording by it")
+    static void promise04_nothingIsLeftOfTheOneBefore() {
+        TranscriptCutter x = new TranscriptCutter();
+        String[] texts = {TextEdges.words(40) + "length 99;handle 9;speaker b;breath 1 2;breath 3 4;",
+            Twins.TALK, "speaker z;word z hi 500 900;word z so 903 904;", ""};
+        // Each text follows each other one, and itself.
+        for (int turn = 0; turn < 16; turn++) {
+            for (int k : new int[] {turn / 4, turn % 4}) {
+                Check.fill(x, texts[k]);
+                x.load();
+                Check.due("text " + k + " in turn " + turn, Twins.answersOf(x),
+                        Twins.answersOf(Check.loaded(texts[k])));
+            }
         }
     }
 
@@ -254,6 +271,24 @@ final class InputEdges {
         Check.script(x, "cut (no);if (bye) {cut (bye);} restore (bye);");
         other.truncate(0);
         Twins.sameButError("the same script", x, other);
+    }
+
+    @Says("replaces the script by it")
+    static void promise05_nothingIsLeftOfTheOneBefore() {
+        String[] scripts = {"cut (hi so);cut (so);", "if (so) {cut (hi);} else {cut (bye);}",
+            "repeat 2 {cut (yes);} move (hi) behind (bye);", "clean (hi);restore (yes bye);", ""};
+        TranscriptCutter x = Twins.talk();
+        // Each script follows each other one, and itself.
+        for (int turn = 0; turn < 25; turn++) {
+            for (int k : new int[] {turn / 5, turn % 5}) {
+                TranscriptCutter other = Twins.talk();
+                Check.due("script " + k + " in turn " + turn, Check.run(x, scripts[k]),
+                        Check.run(other, scripts[k]));
+                Check.due("its failures", x.failed(), other.failed());
+                Check.due("its film", Check.film(x), Check.film(other));
+                x.undo();
+            }
+        }
     }
 
     @Says("The buffer is empty afterwards, also on an error.")

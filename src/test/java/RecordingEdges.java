@@ -27,7 +27,8 @@ final class RecordingEdges {
         Check.due("parted: blocks", parted.count(3), 2);
     }
 
-    @Says("by words each of which overlaps the next one")
+    @Says("two words are in one block if one can go from one of them to the other one by words each "
+            + "of which overlaps the next one")
     static void blocks_hangTogether() {
         TranscriptCutter chain = of("word a x 0 10;word b y 9 12;word c z 11 13;word a u 13 14;");
         Check.due("chain: blocks", chain.count(3), 2);
@@ -58,7 +59,8 @@ final class RecordingEdges {
         Check.due("end of the last word", y.blockField(0, 1), 101);
     }
 
-    @Says("it may have no frames")
+    @Says("The gap behind a block reaches from the end of its speech to the start of the speech of "
+            + "the next block; it may have no frames.")
     static void blocks_gapWithoutFrames() {
         TranscriptCutter x = of("word a x 0 10;word b y 10 20;breath 5 15;");
         Check.due("range end", x.blockField(0, 5), 10);
@@ -307,6 +309,9 @@ final class RecordingEdges {
         for (int[] pair : due) {
             Check.due("blockAt " + pair[0], x.blockAt(pair[0]), pair[1]);
         }
+        TranscriptCutter forty = Check.loaded(TextEdges.words(40));
+        Check.due("the 40th block", forty.blockAt(999), 39);
+        Check.due("behind it", forty.blockAt(1000), -1);
         Check.due("no block", new TranscriptCutter().blockAt(0), -1);
         Check.due("no block of a recording", Check.loaded("length 7;speaker a;").blockAt(6), -1);
     }
@@ -337,6 +342,9 @@ final class RecordingEdges {
         }
         x.cut(0, 3);
         Check.due("cut words are spoken all the same", x.speakersAt(3), 15);
+        TranscriptCutter forty = Check.loaded(TextEdges.words(40));
+        Check.due("the 40th word", forty.speakersAt(78), 1);
+        Check.due("behind it", forty.speakersAt(79), 0);
         Check.due("no words", new TranscriptCutter().speakersAt(0), 0);
     }
 }

@@ -45,6 +45,10 @@ final class ScriptEdges {
         Check.due("at the end", left("cut (f g);"), 5);
         Check.due("past the end", left("cut (f g a);cut (g a);"), 7);
         Check.due("longer than all", left("cut (a b c d e f);cut (g g);cut (g a b c d e);"), 1);
+        TranscriptCutter x = Check.loaded(TextEdges.words(39) + "word a z 78 79;");
+        Check.run(x, "cut (z x);cut (x z x);cut (x z);");
+        Check.due("past the end of forty", x.failed(), 2);
+        Check.due("at the end of forty", x.transcriptSize(), 38);
     }
 
     @Says("a row of 1 to 6 texts")
@@ -93,6 +97,9 @@ final class ScriptEdges {
         Check.rightScript("move(a)behind(b);");
         Check.wrongScript(SYNTAX, "move(a)^;");
         Check.wrongScript(SYNTAX, "move(a)^(b);");
+        Check.wrongScript(SYNTAX, "move(a)^");
+        Check.wrongScript(SYNTAX, "move(a)^cut(b);");
+        Check.wrongScript(SYNTAX, "move(a)^behinds(b);");
         Check.wrongScript(SYNTAX, "move(a)behind^;");
         Check.wrongScript(SYNTAX, "move(a)behind(b)^");
         Check.wrongScript(SYNTAX, "move ^behind(b);");
@@ -149,6 +156,8 @@ final class ScriptEdges {
         Check.due("the innermost one", left(FIVE + "cut (a);" + "}".repeat(5)), 6);
         Check.rightScript(FIVE + "}".repeat(5) + FIVE + "}".repeat(5));
         Check.rightScript("if(a){}else{".repeat(5) + "}".repeat(5));
+        Check.due("if", left("if(b){".repeat(5) + "cut (a);" + "}".repeat(5)), 6);
+        Check.due("else", left("if(x){}else{".repeat(5) + "cut (a);" + "}".repeat(5)), 6);
         Check.wrongScript(TOO_MANY, FIVE + "repeat 2 ^{");
     }
 
@@ -159,6 +168,11 @@ final class ScriptEdges {
         Check.wrongScript(TOO_MANY, THIRTY + "^cut(a);");
         Check.wrongScript(TOO_MANY, "if(a){" + "cut(a);".repeat(14) + "}else{" + "cut(a);".repeat(15)
                 + "^cut(a);}");
+        Check.due("the 30th is done", left("cut(x);".repeat(29) + "cut(a);"), 6);
+        Check.rightScript("move(a b c d e f)behind(g);".repeat(30));
+        TranscriptCutter x = Check.loaded(ScriptRunTest.spoken("a b c d e f g"));
+        Check.run(x, "cut(x);".repeat(29) + "move(a)behind(b c d e f g);");
+        Check.due("the 30th moves", Check.film(x), "1 2 3 4 5 6 0 | 1 2 3 4 5 6 0");
         Check.wrongScript(TOO_MANY, "repeat 1{" + "cut(a);".repeat(29) + "}^cut(a);");
     }
 

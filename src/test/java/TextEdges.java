@@ -80,11 +80,14 @@ final class TextEdges {
     static void recording_startsBackwards() {
         StringBuilder text = new StringBuilder("speaker a;");
         for (int k = 39; k >= 0; k--) {
-            text.append("word a x ").append(2 * k).append(' ').append(2 * k + 1).append(';');
+            text.append("word a ").append(k % 2 == 0 ? 'x' : 'y').append(' ').append(2 * k)
+                    .append(' ').append(2 * k + 1).append(';');
         }
         TranscriptCutter x = loaded(text.toString());
         for (int word = 0; word < 40; word++) {
             Check.due("start of " + word, x.wordField(word, 1), 2 * word);
+            Check.due("end of " + word, x.wordField(word, 2), 2 * word + 1);
+            Check.due("text of " + word, x.isSameText(word, 0), word % 2 == 0);
         }
     }
 
@@ -115,6 +118,21 @@ final class TextEdges {
         Check.wrongText(SYNTAX, "^;");
         Check.wrongText(SYNTAX, "length 5;^;");
         Check.wrongText(SYNTAX, "length 5^");
+    }
+
+    @Says("line = \"length\" number | \"speaker\" name | \"word\" name name number number | "
+            + "\"breath\" number number | \"handle\" number.")
+    static void inputText_lineWithTooLittleOrTooMuch() {
+        String[] lines = {"length 5", "handle 5", "speaker b", "word a x 1 2", "breath 1 2"};
+        for (String line : lines) {
+            Check.rightText("speaker a;" + line + ";");
+            for (int space = line.indexOf(' '); space > 0; space = line.indexOf(' ', space + 1)) {
+                Check.wrongText(SYNTAX, "speaker a;" + line.substring(0, space) + "^;");
+            }
+            for (String more : new String[] {"7", "x", line, "^"}) {
+                Check.wrongText(SYNTAX, "speaker a;" + line + " ^" + more + ";");
+            }
+        }
     }
 
     @Says("a longest run of letters a to z")
@@ -319,6 +337,8 @@ final class TextEdges {
         Check.wrongText(SYNTAX, "^lengthy 5;");
         Check.wrongText(SYNTAX, "^lengt 5;");
         Check.wrongText(SYNTAX, "^lengt");
+        Check.wrongText(SYNTAX, "^mength 5;");
+        Check.wrongText(SYNTAX, "^lengti 5;");
         Check.wrongText(SYNTAX, "^7;");
         Check.wrongText(SYNTAX, "length ^abc;");
         Check.wrongText(SYNTAX, "speaker ^12;");

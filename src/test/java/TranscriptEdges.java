@@ -134,6 +134,10 @@ final class TranscriptEdges {
             Check.due("lengthIfCut " + row[0] + " " + row[1], x.lengthIfCut(row[0], row[1]), row[2]);
             Check.due("cut " + row[0] + " " + row[1], x.cut(row[0], row[1]), 100 - row[2]);
         }
+        TranscriptCutter forty = Check.loaded(TextEdges.words(40));
+        Check.due("forty places", forty.lengthIfCut(0, 39), 0);
+        Check.due("all but the 40th", forty.lengthIfCut(0, 38), 1000 - 77);
+        Check.due("the 40th", forty.lengthIfCut(39, 39), 77);
         Twins.asks("the block's other word is muted", 24, x -> x.lengthIfCut(0, 0));
         Twins.asks("the last place", 26, x -> x.lengthIfCut(1, 1));
         Twins.asks("all", 0, x -> x.lengthIfCut(0, 1));
@@ -191,6 +195,13 @@ final class TranscriptEdges {
             Check.due("shotsToCut " + pair[0], x.shotsToCut(pair[0]), pair[1]);
         }
         Check.due("an empty film", new TranscriptCutter().shotsToCut(0), 0);
+        for (int shot = 0; shot < 3; shot++) {
+            TranscriptCutter moved = Check.loaded("handle 0;" + Twins.TALK.replace("handle 7;", ""));
+            moved.move(2, 2, shot - 1);
+            Check.due("the greatest is shot " + shot, moved.blockOf(shot), 2);
+            Check.due("only it is left out", moved.shotsToCut(41), 1);
+            Check.due("it and the next smaller one", moved.shotsToCut(19), 2);
+        }
         TranscriptCutter y = Check.loaded(TextEdges.words(40) + "length 79;");
         Check.due("forty shots", y.shotsToCut(0), 40);
     }
