@@ -11,7 +11,7 @@ final class ActionEdges {
 
     // ---- cutting words
 
-    @Says("A block that has no kept word then leaves the film.")
+    @Says("They are not kept any more. A block that has no kept word then leaves the film.")
     static void cutting_lastKeptWord() {
         TranscriptCutter x = Twins.talk();
         x.cut(1, 1);
@@ -88,7 +88,8 @@ final class ActionEdges {
         Check.due("handles set meanwhile: tail", x.blockField(1, 7), 0);
     }
 
-    @Says("Several words are restored one by one in the order of their numbers.")
+    @Says({"They are kept again.",
+        "Several words are restored one by one in the order of their numbers."})
     static void restoring_oneByOne() {
         TranscriptCutter x = Check.loaded(ScriptRunTest.spoken("a b c d e"));
         x.move(3, 3, -1);

@@ -145,8 +145,10 @@ final class Check {
     /** The formatted text. */
     static String formatted(TranscriptCutter x) {
         StringBuilder text = new StringBuilder();
-        for (int i = 0; x.formattedByte(i) != -1; i++) {
-            text.append((char) x.formattedByte(i));
+        int i = 0;
+        for (int value = x.formattedByte(0); value != -1; value = x.formattedByte(i)) {
+            text.append((char) value);
+            i++;
         }
         return text.toString();
     }
@@ -154,11 +156,13 @@ final class Check {
     /** The words of the transcript by their numbers, then "|" and the blocks of the film. */
     static String film(TranscriptCutter x) {
         StringBuilder text = new StringBuilder();
-        for (int k = 0; k < x.transcriptSize(); k++) {
+        int size = x.transcriptSize();
+        for (int k = 0; k < size; k++) {
             text.append(x.transcriptWord(k)).append(' ');
         }
         text.append('|');
-        for (int shot = 0; shot < x.shots(); shot++) {
+        int shots = x.shots();
+        for (int shot = 0; shot < shots; shot++) {
             text.append(' ').append(x.blockOf(shot));
         }
         return text.toString();
@@ -167,7 +171,8 @@ final class Check {
     /** All that the actions change. */
     static String state(TranscriptCutter x) {
         StringBuilder text = new StringBuilder(film(x));
-        for (int block = 0; block < x.count(3); block++) {
+        int blocks = x.count(3);
+        for (int block = 0; block < blocks; block++) {
             text.append(' ').append(x.blockField(block, 6)).append('/').append(x.blockField(block, 7));
         }
         text.append(" undo ").append(x.undoDepth()).append(" length ").append(x.filmLength());

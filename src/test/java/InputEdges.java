@@ -228,17 +228,16 @@ final class InputEdges {
 
     @Says("replaces the recording by it")
     static void promise04_nothingIsLeftOfTheOneBefore() {
-        TranscriptCutter x = new TranscriptCutter();
-        String[] texts = {TextEdges.words(40) + "length 99;handle 9;speaker b;breath 1 2;breath 3 4;",
+        String[] texts = {TextEdges.words(12) + "length 99;handle 9;speaker b;breath 1 2;breath 3 4;",
             Twins.TALK, "speaker z;word z hi 500 900;word z so 903 904;", ""};
-        // Each text follows each other one, and itself.
-        for (int turn = 0; turn < 16; turn++) {
-            for (int k : new int[] {turn / 4, turn % 4}) {
+        for (int turn = 0; turn < 64; turn++) {
+            TranscriptCutter x = new TranscriptCutter();
+            for (int k : new int[] {turn / 16, turn / 4 % 4, turn % 4}) {
                 Check.fill(x, texts[k]);
                 x.load();
-                Check.due("text " + k + " in turn " + turn, Twins.answersOf(x),
-                        Twins.answersOf(Check.loaded(texts[k])));
             }
+            Check.due("three texts in turn " + turn, Twins.answersOf(x),
+                    Twins.answersOf(Check.loaded(texts[turn % 4])));
         }
     }
 
@@ -247,13 +246,18 @@ final class InputEdges {
     static void promise04_wrongTextChangesNothing() {
         String[] wrong = {"#", Twins.TALK + "#", "length 7;handle 9;speaker z;word z x 1 8;", "speaker"};
         for (String text : wrong) {
-            TranscriptCutter x = Twins.busy();
-            TranscriptCutter other = Twins.busy();
-            Check.fill(x, text);
-            Check.notAllowed("load of " + text, x::load);
-            other.truncate(0);
-            Twins.sameButError(text, x, other);
+            onlyEmptiesTheBuffer(text, TranscriptCutter::load);
         }
+    }
+
+    /** The call on an object with this text is refused; then only the buffer and the error differ. */
+    private static void onlyEmptiesTheBuffer(String text, Twins.Act call) {
+        TranscriptCutter x = Twins.busy();
+        TranscriptCutter other = Twins.busy();
+        Check.fill(x, text);
+        Check.notAllowed("'" + text + "'", () -> call.on(x));
+        other.truncate(0);
+        Twins.sameButError("'" + text + "'", x, other);
     }
 
     @Says("Parses the input buffer as a script text and replaces the script by it.")
@@ -277,17 +281,17 @@ final class InputEdges {
     static void promise05_nothingIsLeftOfTheOneBefore() {
         String[] scripts = {"cut (hi so);cut (so);", "if (so) {cut (hi);} else {cut (bye);}",
             "repeat 2 {cut (yes);} move (hi) behind (bye);", "clean (hi);restore (yes bye);", ""};
-        TranscriptCutter x = Twins.talk();
-        // Each script follows each other one, and itself.
-        for (int turn = 0; turn < 25; turn++) {
-            for (int k : new int[] {turn / 5, turn % 5}) {
-                TranscriptCutter other = Twins.talk();
-                Check.due("script " + k + " in turn " + turn, Check.run(x, scripts[k]),
-                        Check.run(other, scripts[k]));
-                Check.due("its failures", x.failed(), other.failed());
-                Check.due("its film", Check.film(x), Check.film(other));
+        for (int turn = 0; turn < 125; turn++) {
+            TranscriptCutter x = Twins.talk();
+            TranscriptCutter other = Twins.talk();
+            for (int k : new int[] {turn / 25, turn / 5 % 5}) {
+                Check.run(x, scripts[k]);
                 x.undo();
             }
+            Check.due("three scripts in turn " + turn, Check.run(x, scripts[turn % 5]),
+                    Check.run(other, scripts[turn % 5]));
+            Check.due("failures in turn " + turn, x.failed(), other.failed());
+            Check.due("film in turn " + turn, Check.state(x), Check.state(other));
         }
     }
 
@@ -318,12 +322,7 @@ final class InputEdges {
     static void promise05_wrongScriptChangesNothing() {
         String[] wrong = {"#", "cut (hi);cut (so);#", "repeat 0 {}", "move (hi) behind (so)"};
         for (String script : wrong) {
-            TranscriptCutter x = Twins.busy();
-            TranscriptCutter other = Twins.busy();
-            Check.fill(x, script);
-            Check.notAllowed("loadScript of " + script, x::loadScript);
-            other.truncate(0);
-            Twins.sameButError(script, x, other);
+            onlyEmptiesTheBuffer(script, TranscriptCutter::loadScript);
         }
     }
 

@@ -216,6 +216,7 @@ final class RecordingEdges {
         Check.due("one", x.wordField(39, 5), 1);
         TranscriptCutter y = of("word a x 10 20;word b y 20 30;word c z 9 10;word c w 19 21;");
         Check.due("touched on both sides", y.wordField(1, 5), 1);
+        Check.due("the first word alone", of("word a x 1 9;word b y 8 10;").wordField(1, 5), 1);
     }
 
     @Says("Returns true if both words have the same text.")

@@ -94,6 +94,11 @@ final class RunEdges {
     static void running_restorePastTheEnd() {
         ran("a b c", "cut (c);restore (b c a);restore (c a);restore (a b c a b c);", 3, "a b");
         ran("a b c d e f", "cut (f);restore (a b c d e f);", 0, "a b c d e f");
+        TranscriptCutter x = Check.loaded(TextEdges.words(39) + "word a z 78 79;");
+        x.cutWord(39);
+        Check.run(x, "restore (z x);restore (x z x);restore (z);");
+        Check.due("past the end of forty", x.failed(), 2);
+        Check.due("the end of forty", x.placeOf(39), 39);
         Check.due("nothing in nothing", Check.run(new TranscriptCutter(), "restore (a);"), 1);
     }
 

@@ -112,7 +112,7 @@ final class Twins {
         }
         Check.due(what + ": load", Check.thrownBy(x::load), Check.thrownBy(other::load));
         Check.due(what + ": the buffer's text", errorOf(x), errorOf(other));
-        Check.due(what + ": the text in it", answersOf(x), answersOf(other));
+        Check.due(what + ": the text in it", Check.state(x), Check.state(other));
     }
 
     static String errorOf(TranscriptCutter x) {
@@ -125,16 +125,19 @@ final class Twins {
         for (int what = 0; what < 6; what++) {
             tell(all, x.count(what));
         }
-        for (int word = 0; word < x.count(2); word++) {
+        int words = x.count(2);
+        for (int word = 0; word < words; word++) {
             tellWord(all, x, word);
         }
-        for (int block = 0; block < x.count(3); block++) {
+        int blocks = x.count(3);
+        for (int block = 0; block < blocks; block++) {
             for (int what = 0; what < 9; what++) {
                 tell(all, x.blockField(block, what));
             }
             tell(all, x.isSnapped(block) ? 1 : 0);
         }
-        for (int speaker = 0; speaker < x.count(1); speaker++) {
+        int speakers = x.count(1);
+        for (int speaker = 0; speaker < speakers; speaker++) {
             tell(all, x.speakingTime(speaker));
         }
         tellFilm(all, x);
@@ -156,18 +159,21 @@ final class Twins {
     }
 
     private static void tellFilm(StringBuilder all, TranscriptCutter x) {
-        for (int shot = 0; shot < x.shots(); shot++) {
+        int shots = x.shots();
+        for (int shot = 0; shot < shots; shot++) {
             tell(all, x.blockOf(shot));
             for (int what = 0; what < 3; what++) {
                 tell(all, x.shotField(shot, what));
             }
         }
-        for (int clip = 0; clip < x.clips(); clip++) {
+        int clips = x.clips();
+        for (int clip = 0; clip < clips; clip++) {
             for (int what = 0; what < 4; what++) {
                 tell(all, x.clipField(clip, what));
             }
         }
-        for (int place = 0; place < x.transcriptSize(); place++) {
+        int places = x.transcriptSize();
+        for (int place = 0; place < places; place++) {
             tell(all, x.transcriptWord(place));
         }
     }
