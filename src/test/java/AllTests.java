@@ -8,6 +8,7 @@ public final class AllTests {
 
     public static void main(String[] args) {
         FaceTest.run();
+        ReadmeTest.run();
         EdgeTest.run();
         InputTest.run();
         TextErrorTest.run();

@@ -1,4 +1,3 @@
-import java.io.IOException;
 import java.lang.reflect.InvocationTargetException;
 import java.lang.reflect.Method;
 import java.util.ArrayList;
@@ -15,14 +14,13 @@ final class EdgeTest {
     private static final Class<?>[] PARTS = {InputEdges.class, TextEdges.class, ScriptEdges.class,
         RecordingEdges.class, FilmEdges.class, TranscriptEdges.class, ActionEdges.class,
         RunEdges.class, UndoEdges.class, FormatEdges.class};
-    private static final String DOCUMENT = "../shared/DOC.md";
     private static final Pattern NAME = Pattern.compile("(?:promise(\\d\\d)|[a-z]\\w*)_\\w+");
 
     private EdgeTest() {
     }
 
     static void run() {
-        Document document = document();
+        Document document = Document.read();
         boolean[] tested = new boolean[document.promises() + 1];
         for (Class<?> part : PARTS) {
             for (Method test : testsOf(part)) {
@@ -38,14 +36,6 @@ final class EdgeTest {
         Check.within("");
         for (int promise = 0; promise < tested.length; promise++) {
             Check.due("promise " + promise + " has a test of an edge", tested[promise], true);
-        }
-    }
-
-    private static Document document() {
-        try {
-            return new Document(DOCUMENT);
-        } catch (IOException e) {
-            throw new IllegalStateException(DOCUMENT + " cannot be read", e);
         }
     }
 

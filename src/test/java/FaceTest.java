@@ -1,34 +1,20 @@
-import java.lang.reflect.Constructor;
+import java.io.IOException;
 import java.lang.reflect.Field;
 import java.lang.reflect.Method;
 import java.lang.reflect.Modifier;
-import java.util.Arrays;
-import java.util.List;
+import java.nio.file.Files;
+import java.nio.file.Path;
 import java.util.TreeSet;
 
 /** The face of the class, and what of ../shared/LANGUAGE.md shows in the compiled classes. */
 final class FaceTest {
-    private static final String FACE = "append(int,int,int,int,int):int truncate(int):boolean "
-            + "load():int loadScript():int errorOffset():int errorKind():int count(int):int "
-            + "wordField(int,int):int isSameText(int,int):boolean overlap(int,int):boolean "
-            + "differentTexts():int blockField(int,int):int blockAt(int):int "
-            + "isSnapped(int):boolean speakersAt(int):int shots():int blockOf(int):int "
-            + "shotField(int,int):int filmLength():int clips():int clipField(int,int):int "
-            + "sourceOf(int):int heard(int,int):int silence():int longestSilence():int "
-            + "speakingTime(int):int transcriptSize():int transcriptWord(int):int "
-            + "placeOf(int):int startInFilm(int):int occurrences(int):int stutters():int "
-            + "lengthIfCut(int,int):int lengthIfRestored(int):int shotsToCut(int):int "
-            + "cut(int,int):int cutWord(int):int restore(int,int):int move(int,int,int):int "
-            + "setHandles(int,int,int):int runScript():int failed():int wasStopped():boolean "
-            + "undo():int undoDepth():int formatTranscript():int formatShot(int):int "
-            + "formattedByte(int):int";
-
     private FaceTest() {
     }
 
     static void run() {
         constants();
-        methods();
+        members();
+        names();
         insideClasses();
         newObject();
     }
@@ -51,21 +37,52 @@ final class FaceTest {
         Check.due("fields that are not private", open, 8);
     }
 
-    private static void methods() {
-        List<String> due = Arrays.asList(FACE.split(" "));
-        TreeSet<String> open = new TreeSet<>();
+    /** Each member stands in the program as in the document, and nothing else is to be seen. */
+    private static void members() {
+        String program = program();
+        int methods = 0;
+        int constants = 0;
+        for (String member : Document.read().face()) {
+            boolean constant = member.contains("=");
+            Check.due("the program has '" + member + "'",
+                    program.contains(" " + member + (constant ? ";" : " {")), true);
+            constants += constant ? 1 : 0;
+            methods += constant ? 0 : 1;
+        }
+        Check.due("the constants, and the constructor and methods", constants + " " + methods, "8 49");
+        int openMethods = 0;
+        for (Method method : TranscriptCutter.class.getDeclaredMethods()) {
+            openMethods += isOpen(method) ? 1 : 0;
+        }
+        Check.due("open methods", openMethods, methods - 1);
+        Check.due("constructors", TranscriptCutter.class.getDeclaredConstructors().length, 1);
+        Check.due("the class is final",
+                Modifier.isFinal(TranscriptCutter.class.getModifiers()), true);
+    }
+
+    private static String program() {
+        try {
+            return Document.plain(Files.readString(Path.of("src/main/java/TranscriptCutter.java")));
+        } catch (IOException e) {
+            throw new IllegalStateException("the program cannot be read", e);
+        }
+    }
+
+    private static boolean isOpen(Method method) {
+        return !Modifier.isPrivate(method.getModifiers()) && !method.isSynthetic();
+    }
+
+    /** No other method has the name of one of the face. */
+    private static void names() {
         TreeSet<String> names = new TreeSet<>();
         for (Method method : TranscriptCutter.class.getDeclaredMethods()) {
-            if (!Modifier.isPrivate(method.getModifiers()) && !method.isSynthetic()) {
-                open.add(signature(method));
+            if (isOpen(method)) {
                 names.add(method.getName());
             }
         }
-        Check.due("the methods of the face", open.toString(), new TreeSet<>(due).toString());
         for (Method method : TranscriptCutter.class.getDeclaredMethods()) {
-            boolean hidden = Modifier.isPrivate(method.getModifiers());
             Check.due(method.getName() + " is private with a public name",
-                    hidden && names.contains(method.getName()), false);
+                    !isOpen(method) && names.contains(method.getName()), false);
         }
         for (Class<?> inside : TranscriptCutter.class.getDeclaredClasses()) {
             for (Method method : inside.getDeclaredMethods()) {
@@ -73,22 +90,6 @@ final class FaceTest {
                         names.contains(method.getName()), false);
             }
         }
-        Constructor<?>[] constructors = TranscriptCutter.class.getDeclaredConstructors();
-        Check.due("constructors", constructors.length, 1);
-        Check.due("the constructor is public",
-                Modifier.isPublic(constructors[0].getModifiers()), true);
-        Check.due("the class is final",
-                Modifier.isFinal(TranscriptCutter.class.getModifiers()), true);
-    }
-
-    private static String signature(Method method) {
-        StringBuilder text = new StringBuilder(method.getName()).append('(');
-        String comma = "";
-        for (Class<?> type : method.getParameterTypes()) {
-            text.append(comma).append(type.getSimpleName());
-            comma = ",";
-        }
-        return text.append("):").append(method.getReturnType().getSimpleName()).toString();
     }
 
     private static void insideClasses() {
